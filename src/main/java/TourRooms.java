@@ -775,9 +775,12 @@ public final class TourRooms {
     private static final class Contract {
         static final int MOST_RULES = 12;
         static final int MARKS = 3;
-        static final int HELD = 1;
+        // the facts' numbers; a fact's step in the code is -1 less its number
         static final int LEFT = 0;
+        static final int HELD = 1;
         static final int USED = 2;
+        static final int PEOPLE = 3;
+        static final int SEASON = 4;
         static final int FACTS = 5;
         static final int AND = -6;
         static final int LESS = -7;
@@ -809,8 +812,8 @@ public final class TourRooms {
             facts[LEFT] = left;
             facts[HELD] = held;
             facts[USED] = used;
-            facts[3] = people;
-            facts[4] = season;
+            facts[PEOPLE] = people;
+            facts[SEASON] = season;
         }
 
         int worthOf(int kind) {
@@ -824,6 +827,19 @@ public final class TourRooms {
                 }
             }
             return 0;
+        }
+
+        /** Whether a rule of a kind names a fact. */
+        boolean asksFor(int kind, int fact) {
+            for (int rule = 0; rule < rules; rule++) {
+                int end = Math.min(marks[rule * MARKS + 2], code.length);
+                for (int k = marks[rule * MARKS]; kinds[rule] == kind && k < end; k++) {
+                    if (code[k] == -1 - fact) {
+                        return true;
+                    }
+                }
+            }
+            return false;
         }
 
         private int valueOf(int from, int to) {
@@ -1327,32 +1343,38 @@ public final class TourRooms {
     private static final class Losses {
         private static final int MOST_USED = 10;
         private static final int WIDTH = MOST_USED + 1;
+        private static final int SIZE = (MOST_ROOMS + 1) * WIDTH;
 
         int least = 0;
         int given = 0;
-        private final int[] table = new int[(MOST_ROOMS + 1) * WIDTH];
-        private final int[] worst = new int[(MOST_ROOMS + 1) * WIDTH];
+        private final int[] table = new int[SIZE];
+        private final int[] worst = new int[SIZE];
+        private final int[] fees = new int[SIZE];
         private int up = 0;
         private int down = 0;
+        private int mostHeld = 0;
         private int lowest = 0;
         private int highest = 0;
 
         void foresee(Contract contract, int d, int up, int down, int small) {
-            int held = contract.facts[Contract.HELD];
             int used = contract.facts[Contract.USED];
+            mostHeld = contract.facts[Contract.HELD];
             this.up = up;
             this.down = down;
             spread(used, d);
-            fillLastDay(held, small);
+            fillLastDay(small);
+            given = 0;
+            boolean asksLeft = contract.asksFor(FEE, Contract.LEFT);
             for (int days = 1; days <= d; days++) {
                 spread(used, d - days);
-                fillWorst(held);
-                fillDay(contract, days, held);
+                // the first of these days has the widest spread, so its fees can serve them all
+                if (days == 1 || asksLeft) {
+                    fillFees(contract, days);
+                }
+                fillWorst();
+                fillDay();
             }
-            if (d == 0) {
-                given = 0;
-            }
-            least = table[held * WIDTH + used];
+            least = table[mostHeld * WIDTH + used];
         }
 
         /** The used that can come up after so many days. */
@@ -1361,7 +1383,7 @@ public final class TourRooms {
             highest = Math.min(MOST_USED, used + days * up);
         }
 
-        private void fillLastDay(int mostHeld, int small) {
+        private void fillLastDay(int small) {
             for (int held = 0; held <= mostHeld; held++) {
                 for (int used = lowest; used <= highest; used++) {
                     int more = held - used;
@@ -1370,7 +1392,28 @@ public final class TourRooms {
             }
         }
 
-        private void fillWorst(int mostHeld) {
+        /** A fee is asked for anew only where it may differ: a text may take long to tell. */
+        private void fillFees(Contract contract, int days) {
+            boolean asksHeld = contract.asksFor(FEE, Contract.HELD);
+            boolean asksUsed = contract.asksFor(FEE, Contract.USED);
+            contract.facts[Contract.LEFT] = days;
+            for (int held = 1; held <= mostHeld; held++) {
+                contract.facts[Contract.HELD] = held;
+                for (int used = lowest; used <= highest; used++) {
+                    int at = held * WIDTH + used;
+                    contract.facts[Contract.USED] = used;
+                    if (held > 1 && !asksHeld) {
+                        fees[at] = fees[at - WIDTH];
+                    } else if (used > lowest && !asksUsed) {
+                        fees[at] = fees[at - 1];
+                    } else {
+                        fees[at] = contract.worthOf(FEE);
+                    }
+                }
+            }
+        }
+
+        private void fillWorst() {
             for (int held = 0; held <= mostHeld; held++) {
                 for (int used = lowest; used <= highest; used++) {
                     int last = Math.min(MOST_USED, used + up);
@@ -1383,20 +1426,17 @@ public final class TourRooms {
             }
         }
 
-        private void fillDay(Contract contract, int days, int mostHeld) {
-            contract.facts[Contract.LEFT] = days;
+        private void fillDay() {
             for (int held = 0; held <= mostHeld; held++) {
-                contract.facts[Contract.HELD] = held;
                 for (int used = lowest; used <= highest; used++) {
-                    contract.facts[Contract.USED] = used;
-                    int fee = held == 0 ? 0 : contract.worthOf(FEE);
-                    table[held * WIDTH + used] = leastOf(fee, held, used);
+                    table[held * WIDTH + used] = leastOf(held, used);
                 }
             }
         }
 
-        /** The last one asked for is the one that foresee() is about: given is told by it. */
-        private int leastOf(int fee, int held, int used) {
+        /** Given is told too; the last call of all is for what foresee() is asked. */
+        private int leastOf(int held, int used) {
+            int fee = fees[held * WIDTH + used];
             int best = worst[held * WIDTH + used];
             given = 0;
             for (int r = 1; r <= held; r++) {
