@@ -99,6 +99,8 @@ public final class ContractTest {
         fault("fee ();", 51);
         fault("fee (1", 61);
         fault("fee lefts;", 41);
+        fault("fee leftz;", 41);
+        fault("fee lefta;", 41);
         fault("fee left held;", 91);
         fault("fee fee;", 41);
         fault("fee\t5;", 31);
