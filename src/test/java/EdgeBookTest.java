@@ -160,12 +160,31 @@ public final class EdgeBookTest {
         edge.told("lay in NIGHT 0", OVER, x -> x.lay(0, 3), 2);
         edge.told("lay in NIGHT 1", OVER, x -> x.lay(1, 3), 2);
         edge.none("lay in NIGHT 1, which is not closed", BUSY, x -> x.lay(1, 3));
+        TourRooms ten = closedByTen();
+        for (int person = 0; person < 10; person++) {
+            check.due("lay of " + person + " of ten", ten.lay(0, person), 9 - person);
+        }
+        check.due("no 11th lay", ten.lay(0, 10), NONE);
         TourRooms x = Desk.busy();
         x.put(0, 3, 3);
         check.due("as it was written", x.lay(0, 3), 2);
         x.day(1);
         x.night();
         check.due("as it was the next NIGHT", x.lay(1, 3), 3);
+    }
+
+    private static TourRooms closedByTen() {
+        TourRooms x = Desk.people(10);
+        x.start(0);
+        x.town(1);
+        for (int k = 0; k < 10; k++) {
+            x.room(0, 1, false, 10);
+        }
+        for (int k = 0; k < 10; k++) {
+            x.put(0, k, 9 - k);
+        }
+        check.due("NIGHT", x.night(), 0);
+        return x;
     }
 
     private static void layOfOneWithoutARoom() {
@@ -212,6 +231,8 @@ public final class EdgeBookTest {
         check.due("100 free", closed(10, "free 100;").bill(0), 0);
         check.due("9 of ten free", closed(10, "free 9;").bill(0), 100);
         check.due("10 of ten free", closed(10, "free 10;").bill(0), 0);
+        check.due("the only one free", closed(1, "free 1;").bill(0), 0);
+        check.due("the only one, and more free", closed(1, "free 100;").bill(0), 0);
         check.due("what is owed is not less", closed(3, "free 3;").owes(2), 30);
     }
 

@@ -29,6 +29,7 @@ public final class EdgeCoachTest {
         tripDrives540();
         tripEndsBy1440();
         tripTakesSix();
+        tripThatEndsFirst();
         tripIsTheFirstOfSeveral();
         tripOfAheadOfAny();
         tripOfOthers();
@@ -197,6 +198,9 @@ public final class EdgeCoachTest {
         for (int minute : new int[] {0, 1, 720, 1439, 1440}) {
             trip("no SIGHT at " + minute, new TourRooms(), minute, 0, minute, 0, 0);
         }
+        TourRooms x = oneSight(0, 1440, 1, 270, 1);
+        trip("a trip with a REST", x, 0, 1, 317, 271, 1);
+        trip("and then none", x, 1440, 0, 1440, 0, 0);
         trip("SIGHTS without WAYS", sights(6), 77, 0, 77, 0, 0);
     }
 
@@ -248,6 +252,14 @@ public final class EdgeCoachTest {
         trip("a second REST", row(1, 180, 91, 90, 90), 0, 3, 544, 451, 2);
         trip("a SIGHT of 45 minutes counts too", row(45, 180, 91, 90, 90), 0, 3, 586, 451, 0);
         trip("each of 135", row(1, 135, 135, 135, 135), 0, 3, 588, 540, 1);
+        // 45 minutes at the first SIGHT, then two WAYS of 270 or 271 by one of a minute
+        TourRooms x = oneSight(0, 1440, 45, 100, 270);
+        x.sight(0, 1440, 1);
+        x.way(1, 2, 135);
+        x.way(2, 0, 135);
+        trip("270 since a SIGHT of 45 minutes", x, 0, 2, 416, 370, 0);
+        x.way(2, 0, 136);
+        trip("271 since a SIGHT of 45 minutes", x, 0, 2, 462, 371, 1);
     }
 
     private static void tripDrives540() {
@@ -298,6 +310,19 @@ public final class EdgeCoachTest {
         for (int k = 0; k < 6; k++) {
             check.due("the first of the others", x.tripOf(10 + k), due[k]);
         }
+    }
+
+    private static void tripThatEndsFirst() {
+        TourRooms x = oneSight(0, 1440, 10, 50, 50);
+        x.sight(101, 1440, 5);
+        x.way(0, 2, 5);
+        x.way(2, 0, 5);
+        trip("ends a minute ahead, though it drives more", x, 0, 1, 110, 100, 0);
+        x.way(0, 1, 51);
+        trip("ends as early, and drives more", x, 0, 1, 111, 10, 0);
+        check.due("the other one", x.tripOf(10), 2);
+        x.way(0, 1, 52);
+        trip("ends a minute later", x, 0, 1, 111, 10, 0);
     }
 
     private static void tripOfAheadOfAny() {

@@ -21,7 +21,9 @@ public final class EdgeListTest {
         settleWhereItIsOver();
         settleWithoutARightList();
         settleWithJustEnough();
+        settleMovesAll();
         settleOfNobody();
+        settleLeavesOutWhoIsNotThere();
         settleNeedsNotes();
         movedBehindRefusals();
         mostOfNoSuchTown();
@@ -184,11 +186,13 @@ public final class EdgeListTest {
             edge.none("settle of TOWN " + wrong, BUSY, x -> x.settle(wrong, 0));
         }
         for (int wrong : new int[] {-1, 2, 3, Edge.LEAST, Edge.MOST}) {
-            edge.none("settle, how " + wrong, BUSY, x -> x.settle(2, wrong));
+            edge.none("settle, how " + wrong, BUSY, x -> x.settle(0, wrong));
         }
         // two who are FRIENDS for 60, a pair for 70, one alone for 40, who needs LOW for 35
-        edge.is("settle, how 0", BUSY, x -> x.settle(0, 0), 205);
-        edge.is("settle, how 1", BUSY, x -> x.settle(0, 1), 210);
+        TourRooms x = edge.is("settle, how 0", BUSY, y -> y.settle(0, 0), 205);
+        check.due("MOVED by COST", x.moved(), 2);
+        TourRooms z = edge.is("settle, how 1", BUSY, y -> y.settle(0, 1), 210);
+        check.due("MOVED by MOVED", z.moved(), 0);
     }
 
     private static void settleWhereItIsOver() {
@@ -245,15 +249,66 @@ public final class EdgeListTest {
         check.due("who was there", x.roomOf(0, 0, 4), 3);
         check.due("who came", x.roomOf(0, 1, 4), 4);
         check.due("RIGHT", x.right(0), true);
-        edge.is("a ROOM of PRICE 1000 for each of ten", () -> {
-            TourRooms y = new TourRooms();
-            y.town(1);
+        for (int how = 0; how <= 1; how++) {
+            int h = how;
+            TourRooms z = edge.is("ten ROOMS of 1000", EdgeListTest::tenAlone, y -> y.settle(0, h), 10000);
             for (int k = 0; k < 10; k++) {
-                y.person(false, 0, true, 0, 0, 0);
-                y.room(0, 1, true, 1000);
+                check.due("who is in ROOM " + k, z.roomOf(0, k, 4), 1 << k);
             }
-            return y;
-        }, y -> y.settle(0, 0), 10000);
+        }
+    }
+
+    /** Ten who need a low room each, and ten rooms of 1000. */
+    private static TourRooms tenAlone() {
+        TourRooms x = new TourRooms();
+        x.town(1);
+        for (int k = 0; k < 10; k++) {
+            x.person(false, 0, true, 0, 0, 0);
+            x.room(0, 1, true, 1000);
+        }
+        return x;
+    }
+
+    /** Ten in dear rooms, and as many cheap ones: all of them move, or none; then one by itself. */
+    private static void settleMovesAll() {
+        TourRooms x = Desk.people(10);
+        x.town(1);
+        for (int k = 0; k < 5; k++) {
+            x.room(0, 2, false, 999);
+        }
+        check.due("settled", x.settle(0, 0), 4995);
+        for (int k = 0; k < 5; k++) {
+            x.room(0, 2, false, 3);
+        }
+        check.due("by MOVED", x.settle(0, 1), 4995);
+        check.due("none of ten MOVED", x.moved(), 0);
+        check.due("by COST", x.settle(0, 0), 15);
+        check.due("all ten MOVED", x.moved(), 10);
+        check.due("notes", x.count(10), 20);
+        check.due("one in a dear ROOM", x.put(0, 0, 0), true);
+        check.due("by COST again", x.settle(0, 0), 15);
+        check.due("one MOVED", x.moved(), 1);
+        // who shares with 0 now must part from it: one of them moves, into an empty ROOM that is cheap or dear
+        for (int k = 1; k < 10; k++) {
+            x.bar(0, k, true);
+        }
+        check.due("no cheap ROOM is left", x.settle(0, 1), 15 + 999);
+        check.due("one MOVED by MOVED", x.moved(), 1);
+    }
+
+    private static void settleLeavesOutWhoIsNotThere() {
+        TourRooms x = Desk.people(2);
+        x.stays(0, 0, 0);
+        x.town(1);
+        x.town(1);
+        for (int town = 0; town < 2; town++) {
+            x.room(town, 2, false, 10);
+        }
+        check.due("both", x.settle(0, 0), 10);
+        check.due("one", x.settle(1, 0), 10);
+        check.due("who is in it", x.roomOf(1, 0, 4), 2);
+        check.due("notes", x.count(10), 3);
+        check.due("RIGHT", x.right(1), true);
     }
 
     private static void settleOfNobody() {
@@ -291,6 +346,12 @@ public final class EdgeListTest {
             return y;
         };
         edge.is("two notes of two", two, y -> y.settle(5, 0), 50);
+        edge.none("a note of none, for the first PERSON", () -> {
+            TourRooms y = Desk.noted(499);
+            y.put(5, 0, NONE);
+            y.stays(8, 0, 4);
+            return y;
+        }, y -> y.settle(5, 0));
         edge.none("two notes of one", () -> {
             TourRooms y = two.make();
             y.put(0, 8, NONE);
@@ -383,6 +444,11 @@ public final class EdgeListTest {
         edge.no("one who is THERE has no ROOM", () -> {
             TourRooms x = Desk.busy();
             x.put(0, 5, NONE);
+            return x;
+        }, x -> x.right(0));
+        edge.no("the first PERSON has no ROOM", () -> {
+            TourRooms x = Desk.busy();
+            x.put(0, 0, NONE);
             return x;
         }, x -> x.right(0));
         edge.no("one more is THERE", () -> {

@@ -27,6 +27,8 @@ public final class EdgeRoomsTest {
         lossWithNothing();
         lossKeepsUsedWithinTen();
         lossWithTenRooms();
+        lossByTheFactsOfEachDay();
+        givesNothingWithNoDay();
         givesTheLeast();
         check.end();
     }
@@ -273,6 +275,27 @@ public final class EdgeRoomsTest {
         both("all ten given, a day later", () -> held(10, 0, "fee 1;"), new int[] {0, 2, 0, 0, 1000}, 10, 0);
         both("none of ten given", () -> held(10, 10, "fee 0;"), new int[] {0, 1, 0, 0, 1}, 0, 0);
         both("some must be kept", () -> held(10, 2, "fee 1;"), new int[] {0, 1, 3, 0, 1000}, 305, 5);
+    }
+
+    private static void lossByTheFactsOfEachDay() {
+        both("by held", () -> held(4, 1, "fee held;"), new int[] {0, 1, 0, 0, 1000}, 12, 3);
+        // 6 for one, then 4 for one, then 2
+        both("by held, one a day", () -> held(3, 0, "fee held+held;"), new int[] {0, 3, 0, 0, 1000}, 12, 1);
+        // 22 each, as one is used, and none tomorrow at worst
+        both("by used", () -> held(3, 1, "fee used+used+20;"), new int[] {0, 1, 0, 1, 0}, 66, 3);
+        both("by used, two days", () -> held(3, 1, "fee 60-used-used;"), new int[] {0, 2, 1, 1, 0}, 174, 3);
+        // one is used in the end at worst: two for 5 each, then two for 3 each
+        both("by held with used that spreads", () -> held(5, 3, "fee held;"), new int[] {0, 2, 1, 1, 0}, 16, 2);
+        both("by people, as they are", () -> held(4, 1, "fee people+9;"), new int[] {0, 2, 1, 1, 0}, 40, 0);
+        both("by left: tomorrow is dear", () -> held(2, 0, "fee 50 when left=1;fee 10;"),
+            new int[] {0, 2, 0, 0, 0}, 20, 2);
+    }
+
+    private static void givesNothingWithNoDay() {
+        TourRooms x = held(4, 1, "fee 1;");
+        check.due("gives by a day", x.gives(0, 1, 0, 0, 9), 3);
+        check.due("gives by no day", x.gives(0, 0, 0, 0, 9), 0);
+        check.due("loss by no day", x.loss(0, 0, 0, 0, 9), 300);
     }
 
     private static void givesTheLeast() {

@@ -156,6 +156,12 @@ public final class EdgeTextTest {
         check.due("RULES of another TOWN", x.townOf(1, 8), 3);
         check.due("twelve", Check.read(x, 0, TWELVE), 0);
         check.due("RULES", x.townOf(0, 8), 12);
+        for (int k = 0; k < 30; k++) {
+            check.due("a long one", Check.read(x, 0, "fee 1" + "+1".repeat(40) + "-40;"), 0);
+            check.due("worth", x.worth(0, 0), 1);
+        }
+        check.due("one with a when", Check.read(x, 0, "fee 3 when 1;"), 0);
+        check.due("nothing of the long one is left", x.worth(0, 0), 3);
         check.due("one", Check.read(x, 0, "fee 3;"), 0);
         check.due("RULES", x.townOf(0, 8), 1);
         check.due("fee", x.worth(0, 0), 3);
@@ -196,6 +202,22 @@ public final class EdgeTextTest {
         fault("fee seasons;", 41);
         fault("fee seaso;", 41);
         fault("fee peoples;", 41);
+        for (String word : new String[] {"fee", "back", "refund", "free"}) {
+            eachLetterOf(word, "", " 1;", 0);
+        }
+        for (String word : new String[] {"left", "held", "used", "people", "season"}) {
+            eachLetterOf(word, "fee ", ";", 4);
+        }
+        eachLetterOf("when", "fee 1 ", " 1;", 6);
+        eachLetterOf("and", "fee 1 ", " 1;", 6);
+    }
+
+    /** A word with another letter anywhere is another word, which can't stand there. */
+    private static void eachLetterOf(String word, String ahead, String behind, int place) {
+        fault(ahead + word + behind, 0);
+        for (int k = 0; k < word.length(); k++) {
+            fault(ahead + word.substring(0, k) + "x" + word.substring(k + 1) + behind, 10 * place + 1);
+        }
     }
 
     private static void lettersAreAToZ() {
@@ -348,6 +370,11 @@ public final class EdgeTextTest {
         fault("fee x; ((((((", 41);
         fault("fee((((((1)x", 83);
         fault("fee(((((x((", 81);
+        fault("fee 1 and; x", 91);
+        fault("fee 1<; x", 61);
+        fault("fee 1+; x", 61);
+        fault("fee 1 when; x", 101);
+        fault("fee (1; x", 61);
         fault("fee 12345 ((((((", 41);
         fault("fee 1;x" + TWELVE, 61);
         fault(TWELVE + "fee x", 602);
@@ -460,6 +487,11 @@ public final class EdgeTextTest {
         check.due("when 2", worthOf("fee 5 when 2;"), 5);
         check.due("when 101", worthOf("fee 5 when 101;"), 5);
         check.due("when 1-1", worthOf("fee 5 when 1-1;"), 0);
+        check.due("when 0 and 1", worthOf("fee 5 when 0 and 1;"), 0);
+        check.due("when 1 and 0", worthOf("fee 5 when 1 and 0;"), 0);
+        check.due("when 2 < 1", worthOf("fee 5 when 2<1;"), 0);
+        check.due("when 2 = 1", worthOf("fee 5 when 2=1;"), 0);
+        check.due("when 2 and 3", worthOf("fee 5 when 2 and 3;"), 5);
     }
 
     private static void andLessEqual() {
@@ -475,6 +507,8 @@ public final class EdgeTextTest {
         check.due("2 and 0", worthOf("fee 2 and 0;"), 0);
         check.due("-2 and 3", worthOf("fee 0-2 and 3;"), 1);
         check.due("0 and 0", worthOf("fee 0 and 0;"), 0);
+        check.due("7 and what they tell", worthOf("fee 7+(0 and 1)+(2<1)+(2=1);"), 7);
+        check.due("7 and three", worthOf("fee 7+(2 and 1)+(1<2)+(2=2);"), 10);
         check.due("7 alone", worthOf("fee 7;"), 7);
         check.due("from the left", worthOf("fee 9-3-2;"), 4);
     }

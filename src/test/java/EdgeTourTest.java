@@ -10,6 +10,7 @@ public final class EdgeTourTest {
     public static void main(String[] args) {
         townOfAnotherNumberOfNights();
         townsAreSix();
+        noTownIsTheSeventh();
         townBehindAClosedNight();
         townsFollowOneAnother();
         startOnAnotherDay();
@@ -66,6 +67,26 @@ public final class EdgeTourTest {
         check.due("TOWNS", x.count(4), 6);
         check.due("NIGHTS", x.count(5), 30);
         edge.none("a 7th TOWN", () -> towns(6), y -> y.town(1));
+    }
+
+    /** Beside six towns there is none of the number 6, whatever is asked of it. */
+    private static void noTownIsTheSeventh() {
+        Edge.Make six = () -> towns(6);
+        edge.none("room", six, x -> x.room(6, 1, false, 10));
+        edge.no("put", six, x -> x.put(6, 0, NONE));
+        edge.none("settle", six, x -> x.settle(6, 0));
+        edge.none("most", six, x -> x.most(6));
+        edge.no("right", six, x -> x.right(6));
+        edge.none("listed", six, x -> x.listed(6, 0, 0));
+        edge.none("read", six, x -> x.read(6));
+        edge.none("worth", six, x -> x.worth(6, 0));
+        edge.none("give", six, x -> x.give(6, 0));
+        edge.none("buy", six, x -> x.buy(6, 0));
+        edge.none("loss", six, x -> x.loss(6, 0, 0, 0, 0));
+        edge.none("gives", six, x -> x.gives(6, 0, 0, 0, 0));
+        edge.none("meals", six, x -> x.meals(6, 0));
+        edge.none("townOf", six, x -> x.townOf(6, 0));
+        edge.none("roomOf", six, x -> x.roomOf(6, 0, 0));
     }
 
     private static void townBehindAClosedNight() {

@@ -1,7 +1,6 @@
 /** The notes' limit, as promises 5, 6, 13 and 14 keep to it, within an object's 512 calls. */
 public final class NotesTest {
     private static final Check check = new Check();
-    private static final int PEOPLE = 9;
     private static final int TOWNS = 6;
 
     public static void main(String[] args) {
@@ -28,40 +27,10 @@ public final class NotesTest {
         check.due("gone needs none", x.gone(0), true);
     }
 
-    /** 54 + 4 * 90 = 414 notes, then one by one; person 8 is the one put in and out, in town 5. */
     private static TourRooms withNotes(int wanted) {
-        TourRooms x = new TourRooms();
-        for (int k = 0; k < PEOPLE; k++) {
-            x.person(true, 0, false, 0, 0, 5);
-        }
-        for (int town = 0; town < TOWNS; town++) {
-            x.town(1);
-            for (int room = 0; room < 5; room++) {
-                x.room(town, 2, false, 10);
-            }
-        }
-        settleAll(x);
-        for (int round = 0; round < 4; round++) {
-            for (int k = 0; k < PEOPLE; k++) {
-                x.stays(k, 5, 5);
-            }
-            for (int k = 0; k < PEOPLE; k++) {
-                x.stays(k, 0, 5);
-            }
-            settleAll(x);
-        }
-        int room = x.listed(5, 8, 0);
-        for (int notes = 414; notes < wanted; notes++) {
-            x.put(5, 8, notes % 2 == 0 ? -1 : room);
-        }
+        TourRooms x = Desk.noted(wanted);
         check.due("notes", x.count(10), wanted);
         return x;
-    }
-
-    private static void settleAll(TourRooms x) {
-        for (int town = 0; town < TOWNS; town++) {
-            check.due("settle(" + town + ", 0)", x.settle(town, 0), 50);
-        }
     }
 
     private static void staysIsRefused() {
