@@ -885,22 +885,25 @@ public final class TourRooms {
         private static final int AND = 5;
         private static final int LEFT = 6;
         private static final int SEASON = 10;
-        private static final int NUMBER = 11;
         private static final int END = 12;
         private static final int NO_TOKEN = 13;
-        // a token of one sign is the sign's own number
+        // a token of one sign is the sign's own number; a number is itself and this
+        private static final int NUMBER = 1000;
 
         final int[] kinds = new int[Contract.MOST_RULES];
         final int[] marks = new int[Contract.MOST_RULES * Contract.MARKS];
         final int[] code = new int[MOST_BYTES];
         private final int[] tape = new int[MOST_BYTES];
+        // a token for each byte at most, and the end
+        private final int[] tokens = new int[MOST_BYTES + 1];
+        private final int[] places = new int[MOST_BYTES + 1];
         int length = 0;
         int rules = 0;
         int codes = 0;
+        private int tokenCount = 0;
+        private int next = 0;
         private int token = END;
         private int place = 0;
-        private int behind = 0;
-        private int number = 0;
         private int fault = 0;
 
         void take(long bytes) {
@@ -915,7 +918,9 @@ public final class TourRooms {
 
         /** 0, or the fault; the tape is empty then. */
         int readText() {
-            behind = 0;
+            splitTape();
+            length = 0;
+            next = 0;
             rules = 0;
             codes = 0;
             fault = 0;
@@ -932,7 +937,6 @@ public final class TourRooms {
                     goesOn = readRule();
                 }
             }
-            length = 0;
             return fault;
         }
 
@@ -1012,28 +1016,21 @@ public final class TourRooms {
 
         private boolean readPart(int depth) {
             if (token == '(') {
-                return readBracket(depth);
-            }
-            if (token == NUMBER) {
-                write(number);
+                if (depth >= MOST_BRACKETS) {
+                    return refuse(3);
+                }
+                advance();
+                if (!readAll(depth + 1)) {
+                    return false;
+                }
+                if (token != ')') {
+                    return refuse(1);
+                }
+            } else if (token >= NUMBER) {
+                write(token - NUMBER);
             } else if (token >= LEFT && token <= SEASON) {
                 write(LEFT - 1 - token);
             } else {
-                return refuse(1);
-            }
-            advance();
-            return true;
-        }
-
-        private boolean readBracket(int depth) {
-            if (depth >= MOST_BRACKETS) {
-                return refuse(3);
-            }
-            advance();
-            if (!readAll(depth + 1)) {
-                return false;
-            }
-            if (token != ')') {
                 return refuse(1);
             }
             advance();
@@ -1044,6 +1041,36 @@ public final class TourRooms {
             if (codes < MOST_BYTES) {
                 code[codes] = step;
                 codes++;
+            }
+        }
+
+        /** Takes the next token; behind the last one, which is END, it stays there. */
+        private void advance() {
+            if (next < tokenCount) {
+                token = tokens[next];
+                place = places[next];
+                next++;
+            }
+        }
+
+        /** All tokens are told ahead of the rules, so that calls go less deep: LANGUAGE.md, 11. */
+        private void splitTape() {
+            tokenCount = 0;
+            int behind = 0;
+            for (int at = 0; at < length; at++) {
+                if (at >= behind && !isBlank(tape[at])) {
+                    behind = endOfToken(at);
+                    keep(tokenOf(at, behind), at);
+                }
+            }
+            keep(END, length);
+        }
+
+        private void keep(int token, int place) {
+            if (tokenCount <= MOST_BYTES) {
+                tokens[tokenCount] = token;
+                places[tokenCount] = place;
+                tokenCount++;
             }
         }
 
@@ -1066,61 +1093,58 @@ public final class TourRooms {
             }
         }
 
-        /** Takes the next token: what it is, its place, and the place behind it. */
-        private void advance() {
-            place = behind;
-            while (place < length && isBlank(tape[place])) {
-                place++;
+        /** The place behind the token that begins at a place. */
+        private int endOfToken(int at) {
+            boolean word = isLetter(tape[at]);
+            boolean digits = isDigit(tape[at]);
+            int end = at + 1;
+            while (end < length && (word && isLetter(tape[end]) || digits && isDigit(tape[end]))) {
+                end++;
             }
-            behind = place;
-            if (place >= length) {
-                token = END;
-            } else if (isLetter(tape[place])) {
-                takeWord();
-            } else if (isDigit(tape[place])) {
-                takeNumber();
-            } else {
-                token = isSign(tape[place]) ? tape[place] : NO_TOKEN;
-                behind++;
-            }
+            return end;
         }
 
-        private void takeNumber() {
-            number = 0;
-            while (behind < length && isDigit(tape[behind])) {
-                if (behind - place < MOST_DIGITS) {
-                    number = number * 10 + tape[behind] - '0';
-                }
-                behind++;
+        private int tokenOf(int from, int end) {
+            if (isLetter(tape[from])) {
+                return wordOf(from, end);
             }
-            token = behind - place > MOST_DIGITS ? NO_TOKEN : NUMBER;
+            if (isDigit(tape[from])) {
+                return numberOf(from, end);
+            }
+            return isSign(tape[from]) ? tape[from] : NO_TOKEN;
         }
 
-        private void takeWord() {
-            while (behind < length && isLetter(tape[behind])) {
-                behind++;
+        private int numberOf(int from, int end) {
+            if (end - from > MOST_DIGITS) {
+                return NO_TOKEN;
             }
-            if (spells("fee")) token = FEE;
-            else if (spells("back")) token = BACK;
-            else if (spells("refund")) token = REFUND;
-            else if (spells("free")) token = FREE;
-            else if (spells("when")) token = WHEN;
-            else if (spells("and")) token = AND;
-            else if (spells("left")) token = LEFT;
-            else if (spells("held")) token = LEFT + 1;
-            else if (spells("used")) token = LEFT + 2;
-            else if (spells("people")) token = LEFT + 3;
-            else if (spells("season")) token = SEASON;
-            else token = NO_TOKEN;
+            int number = 0;
+            for (int at = from; at < end; at++) {
+                number = number * 10 + tape[at] - '0';
+            }
+            return NUMBER + number;
         }
 
-        /** Whether the token from place on is this word. */
-        private boolean spells(String word) {
-            if (word.length() != behind - place) {
+        private int wordOf(int from, int end) {
+            if (spells("fee", from, end)) return FEE;
+            if (spells("back", from, end)) return BACK;
+            if (spells("refund", from, end)) return REFUND;
+            if (spells("free", from, end)) return FREE;
+            if (spells("when", from, end)) return WHEN;
+            if (spells("and", from, end)) return AND;
+            if (spells("left", from, end)) return LEFT;
+            if (spells("held", from, end)) return LEFT + 1;
+            if (spells("used", from, end)) return LEFT + 2;
+            if (spells("people", from, end)) return LEFT + 3;
+            return spells("season", from, end) ? SEASON : NO_TOKEN;
+        }
+
+        private boolean spells(String word, int from, int end) {
+            if (word.length() != end - from) {
                 return false;
             }
             for (int k = 0; k < word.length(); k++) {
-                if (word.charAt(k) != tape[place + k]) {
+                if (word.charAt(k) != tape[from + k]) {
                     return false;
                 }
             }
